@@ -71,7 +71,6 @@ public final class VaultLeases {
     private int stoppedClause = NONE;
     private int latestDraughts = 0;
     private int latestRefusal = 0;
-    private boolean centuriesKept = false;
 
     public VaultLeases() {
         Sums sums = new Sums();
@@ -456,7 +455,6 @@ public final class VaultLeases {
             return refused(CANNOT_BE);
         }
         paper.copyFrom(ground);
-        centuriesKept = true;
         draws.state = seed;
         int out = 0;
         for (int i = 0; i < n && paper.terms[YEAR] < LAST_YEAR; i++) {
@@ -469,9 +467,7 @@ public final class VaultLeases {
     }
 
     public int drawn(int k, int what) {
-        if (!centuriesKept) {
-            return NOTHING;
-        }
+        // Ahead of any CENTURIES nobody is on paper.
         if (what == 0) {
             return paper.hasDead(k) ? paper.vaultOf[k] : NOTHING;
         }
@@ -1334,11 +1330,10 @@ public final class VaultLeases {
                 more = now != TEXT_ENDS;
                 if (more) {
                     take(SIGN + ';');
-                    // A ";" that the end follows still asks for one CLAUSE more.
-                    more = fault == NONE;
                 }
             }
             if (more) {
+                // No CLAUSE more may begin here, whatever stands here.
                 take(NEVER);
             }
             return fault == NONE;

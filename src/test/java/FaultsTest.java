@@ -14,6 +14,7 @@ public final class FaultsTest {
             try1(orders, random.nextInt(3) == 0 ? texts.right(clauses, depth) : texts.spoilt(clauses, depth));
         }
         deepOnes();
+        misspelt();
         c.finish("FaultsTest");
     }
 
@@ -33,6 +34,33 @@ public final class FaultsTest {
         for (int sign = 0; sign < 256; sign++) {
             try1(false, Check.bytes("prices 1" + (char) sign + "2"));
             try1(true, Check.bytes("pass" + (char) sign + "times 2"));
+        }
+    }
+
+    /** Each word with a letter changed, dropped, doubled, or one more behind it. */
+    private static void misspelt() {
+        String[] laws = {"prices 1", "lasts 1", "earns 1", "bars", "bars if 1=1 or 1=1 and not 1=1",
+            "lasts dead+family+vault+term+means+beds+free+year+mood"};
+        String[] orders = {"renew 1", "lodge 1 in 1", "knock 1", "pass times 2 if 1=1 or 1=1 and not 1=1",
+            "renew year+done+latest+inside+term 1+means 1"};
+        for (String text : laws) {
+            misspelt(false, text);
+        }
+        for (String text : orders) {
+            misspelt(true, text);
+        }
+    }
+
+    private static void misspelt(boolean orders, String text) {
+        for (int i = 0; i < text.length(); i++) {
+            String ahead = text.substring(0, i);
+            String behind = text.substring(i + 1);
+            char sign = text.charAt(i);
+            try1(orders, Check.bytes(ahead + behind));
+            try1(orders, Check.bytes(ahead + sign + sign + behind));
+            try1(orders, Check.bytes(ahead + "q" + behind));
+            try1(orders, Check.bytes(ahead + Character.toUpperCase(sign) + behind));
+            try1(orders, Check.bytes(ahead + " " + sign + behind));
         }
     }
 

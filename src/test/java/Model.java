@@ -583,9 +583,10 @@ final class Model {
     }
 
     private int rooms(int what) {
-        if (what < 0 || what >= 2 + s.dead.size()) {
-            return -1;
-        }
+        return what < 0 || what >= 2 + s.dead.size() ? -1 : allRooms()[what];
+    }
+
+    int[] allRooms() {
         int[] free = new int[s.beds.size()];
         boolean[][] bars = new boolean[s.dead.size()][free.length];
         for (int v = 0; v < free.length; v++) {
@@ -597,7 +598,7 @@ final class Model {
         int[] best = new int[2 + s.dead.size()];
         best[0] = -1;
         tryRooms(0, free, bars, new int[best.length], best);
-        return best[what];
+        return best;
     }
 
     /** Every row in the order of rows, so the first of the best stays. */

@@ -292,10 +292,15 @@ public final class PromisesTest {
         c.due("no draughts", x.draughts(), 0);
         c.due("one within which the tape ends", Check.row(x, 0), 0);
         c.due("a draught", x.draughts(), 1);
+        // What end() cut off is not the TERM of the one within which the tape ends.
+        x.feed(0x00010700, 0x01080000, 0, 0, 0);
+        x.end(5);
+        c.due("row", x.row(), 1);
+        c.due("a draught", x.draughts(), 1);
         x.vault(3);
         x.vault(3);
-        c.due("eight at most", Check.row(x, 0, 2, 1, 0, 2, 2, 0, 2, 3, 0, 3, 4, 0, 3, 5, 0, 3, 6), 5);
-        c.due("draught", x.draughts(), 1);
+        c.due("eight at most", Check.row(x, 0, 2, 1, 0, 2, 2, 0, 2, 3, 0, 3, 4, 0, 3, 5, 0, 3, 6), 4);
+        c.due("draughts", x.draughts(), 2);
         c.due("count", x.count(2), 8);
     }
 
@@ -898,6 +903,10 @@ public final class PromisesTest {
         x.force(3);
         c.due("beyond 999, too", x.when(2, 0), 7);
         c.due("for", x.when(2, 1), 1);
+        Check.law(x, "prices 9;prices 4 if year = 999");
+        x.force(4);
+        c.due("next year", x.when(2, 0), 1);
+        c.due("for", x.when(2, 1), 4);
         x.force(NONE);
         c.due("the first", x.when(2, 0), 0);
         c.due("without a law", x.when(2, 1), 5);
