@@ -964,8 +964,8 @@ public final class VaultLeases {
         int clauseCount = 0;
 
         Program(int mostSteps, int mostClauses) {
-            steps = new int[mostSteps];
-            clauses = new int[mostClauses * CLAUSE_SIZE];
+            steps = new int[Math.max(0, mostSteps)];
+            clauses = new int[Math.max(0, mostClauses * CLAUSE_SIZE)];
         }
 
         Program trimmed() {
