@@ -1,7 +1,7 @@
 import java.nio.charset.StandardCharsets;
 import java.util.Arrays;
 
-/** What the tests share: counting wrong answers, and feeding a TEXT or bytes to a TAPE. */
+/** What the tests share: counting wrong answers, a small ground, feeding a TEXT or bytes to a TAPE. */
 final class Check {
     private int wrong = 0;
     private int asked = 0;
@@ -35,6 +35,19 @@ final class Check {
         if (wrong > 0 || asked == 0) {
             System.exit(1);
         }
+    }
+
+    /** Two VAULTS (2 BEDS, 1), two FAMILIES (30, 7), three DEAD (TERM 3, 1 in VAULT 0, 12 in 1). */
+    static VaultLeases small() {
+        VaultLeases x = new VaultLeases();
+        x.vault(2);
+        x.vault(1);
+        x.family(30);
+        x.family(7);
+        x.dead(0, 0, 3);
+        x.dead(1, 0, 1);
+        x.dead(0, 1, 12);
+        return x;
     }
 
     static byte[] bytes(String text) {

@@ -49,21 +49,8 @@ public final class PromisesTest {
         c.finish("PromisesTest");
     }
 
-    /** Two VAULTS (2 BEDS, 1), two FAMILIES (30, 7), three DEAD (TERM 3, 1 in VAULT 0, 12 in 1). */
-    private static VaultLeases small() {
-        VaultLeases x = new VaultLeases();
-        x.vault(2);
-        x.vault(1);
-        x.family(30);
-        x.family(7);
-        x.dead(0, 0, 3);
-        x.dead(1, 0, 1);
-        x.dead(0, 1, 12);
-        return x;
-    }
-
     private static VaultLeases under(String law) {
-        VaultLeases x = small();
+        VaultLeases x = Check.small();
         c.due("law " + law, Check.law(x, law), 0);
         c.due("force", x.force(0), NONE);
         return x;
@@ -173,7 +160,7 @@ public final class PromisesTest {
 
     private static void ofTheDead() {
         c.about("promise 7");
-        VaultLeases x = small();
+        VaultLeases x = Check.small();
         int[] due = {0, 1, 12, 0, 5, 10};
         for (int i = 0; i < due.length; i++) {
             c.due("of(2, " + i + ")", x.of(2, i), due[i]);
@@ -306,7 +293,7 @@ public final class PromisesTest {
 
     private static void laws() {
         c.about("promise 15");
-        VaultLeases x = small();
+        VaultLeases x = Check.small();
         c.due("law", Check.law(x, "prices 7"), 0);
         c.due("the tape is empty", x.count(7), 0);
         c.due("fault", x.fault(), NONE);
@@ -330,7 +317,7 @@ public final class PromisesTest {
 
     private static void lawWords() {
         c.about("promise 15: words");
-        VaultLeases x = small();
+        VaultLeases x = Check.small();
         x.terms(0, 17);
         x.terms(2, 8);
         x.pass();
@@ -437,7 +424,7 @@ public final class PromisesTest {
 
     private static void orders() {
         c.about("promise 16, 18");
-        VaultLeases x = small();
+        VaultLeases x = Check.small();
         c.due("orders", Check.orders(x, "renew 0;pass times 2;lodge 1 in 0;knock 2 if year = 2;pass if year = 9"), 5);
         c.due("the tape is empty", x.count(7), 0);
         c.due("fault", x.fault(), NONE);
@@ -480,7 +467,7 @@ public final class PromisesTest {
 
     private static void ordersUndone() {
         c.about("promise 16: whole or not at all");
-        VaultLeases x = small();
+        VaultLeases x = Check.small();
         for (int i = 0; i < 15; i++) {
             x.pass();
         }
@@ -510,7 +497,7 @@ public final class PromisesTest {
 
     private static void orderWords() {
         c.about("promise 16: words");
-        VaultLeases x = small();
+        VaultLeases x = Check.small();
         x.terms(0, 7);
         String[] tests = {"year = 7", "done = 0", "latest = 0-1", "inside = 3", "term 0 = 3", "term 2 = 12",
             "term 3 = 0-1", "term 7 = 0-1", "means 0 = 30", "means 1 = 7", "means 2 = 0-1", "means 3 = 0-1"};
@@ -528,7 +515,7 @@ public final class PromisesTest {
     }
 
     private static void faultAt(boolean orders, String text, int place) {
-        VaultLeases x = small();
+        VaultLeases x = Check.small();
         c.due(text, orders ? Check.orders(x, text) : Check.law(x, text), -6);
         c.due("fault of " + text, x.fault(), place);
         c.due("the tape is empty", x.count(7), 0);
@@ -583,7 +570,7 @@ public final class PromisesTest {
         faultAt(true, "pass times 1+1", 12);
         faultAt(true, "pass if 1 = 1 times 2", 14);
         faultAt(true, "pass times 2 times 2", 13);
-        VaultLeases x = small();
+        VaultLeases x = Check.small();
         c.due("times 20", Check.orders(x, "pass times 20;pass times 01"), 21);
         c.due("fault of none", x.fault(), NONE);
     }
@@ -598,7 +585,7 @@ public final class PromisesTest {
 
     private static void limitsOfTexts() {
         c.about("promise 15, 17: limits");
-        VaultLeases x = small();
+        VaultLeases x = Check.small();
         c.due("12 clauses", Check.law(x, many("bars", ";", 12)), 0);
         faultAt(false, many("bars", ";", 13), 60);
         faultAt(false, many("bars", ";", 12) + ";  ?", 62);
@@ -627,7 +614,7 @@ public final class PromisesTest {
 
     private static void force() {
         c.about("promise 19");
-        VaultLeases x = small();
+        VaultLeases x = Check.small();
         c.due("none", x.force(NONE), NONE);
         c.due("no such", x.force(0), -2);
         Check.law(x, "prices 8");
@@ -657,7 +644,7 @@ public final class PromisesTest {
         c.due("term", x.of(1, 2), 8);
         c.due("means", x.has(1, 0), 0);
         c.due("one at least", x.renew(1), -3);
-        VaultLeases y = small();
+        VaultLeases y = Check.small();
         y.pass();
         c.due("OUT", y.renew(1), -3);
         y = under("lasts 20;earns 99");
@@ -672,7 +659,7 @@ public final class PromisesTest {
 
     private static void lodgings() {
         c.about("promise 21");
-        VaultLeases x = small();
+        VaultLeases x = Check.small();
         x.vault(3);
         c.due("no such", x.lodge(3, 0), -2);
         c.due("no such", x.lodge(0, 3), -2);
@@ -698,7 +685,7 @@ public final class PromisesTest {
 
     private static void knocks() {
         c.about("promise 22");
-        VaultLeases x = small();
+        VaultLeases x = Check.small();
         x.vault(1);
         x.dead(0, 2, 99);
         c.due("no such", x.knock(4), -2);
@@ -743,7 +730,7 @@ public final class PromisesTest {
 
     private static void undoing() {
         c.about("promise 24");
-        VaultLeases x = small();
+        VaultLeases x = Check.small();
         x.vault(2);
         x.renew(0);
         x.lodge(0, 2);
@@ -784,7 +771,7 @@ public final class PromisesTest {
 
     private static void undoingLimits() {
         c.about("promise 24: limits");
-        VaultLeases x = small();
+        VaultLeases x = Check.small();
         for (int i = 0; i < 17; i++) {
             x.pass();
         }
@@ -824,7 +811,7 @@ public final class PromisesTest {
 
     private static void insideAndEmpty() {
         c.about("promise 25, 26");
-        VaultLeases x = small();
+        VaultLeases x = Check.small();
         c.due("inside", x.inside(0), 7);
         c.due("inside", x.inside(1), 5);
         c.due("inside", x.inside(2), 5);
@@ -922,7 +909,7 @@ public final class PromisesTest {
 
     private static void strangers() {
         c.about("promise 29, 30, 31");
-        VaultLeases x = small();
+        VaultLeases x = Check.small();
         c.due("all", x.stranger(), 7);
         c.due("n 100", x.seen(100, 0), -1);
         c.due("n -1", x.seen(-1, 0), -1);
@@ -955,7 +942,7 @@ public final class PromisesTest {
 
     private static void looking() {
         c.about("promise 32");
-        VaultLeases x = small();
+        VaultLeases x = Check.small();
         c.due("year", x.look(0), 1);
         c.due("left", x.look(1), 2);
         c.due("what 2", x.look(2), NONE);
@@ -1154,7 +1141,7 @@ public final class PromisesTest {
         VaultLeases x = new VaultLeases();
         c.due("no dead", x.centuries(0, 1), -3);
         c.due("-1 ahead of -3", x.centuries(-1, 1), -1);
-        x = small();
+        x = Check.small();
         c.due("seed", x.centuries(1000001, 1), -1);
         c.due("n 0", x.centuries(0, 0), -1);
         c.due("n 61", x.centuries(0, 61), -1);
@@ -1193,7 +1180,7 @@ public final class PromisesTest {
 
     private static void images() {
         c.about("promise 40, 41");
-        VaultLeases x = small();
+        VaultLeases x = Check.small();
         c.due("image(2)", x.image(2), -1);
         c.due("image(-1)", x.image(-1), -1);
         c.due("back(2)", x.back(2), -1);
@@ -1275,7 +1262,7 @@ public final class PromisesTest {
 
     private static void counts() {
         c.about("promise 42");
-        VaultLeases x = small();
+        VaultLeases x = Check.small();
         x.pass();
         x.seen(1, 1);
         Check.law(x, "bars");
