@@ -238,7 +238,16 @@ final class ActEdges {
         e.due("TERM", x.of(0, 2), 3);
         e.due("not KNOCKED", x.of(0, 3), 0);
         e.due("it can again", x.knock(0), 4);
-        x.undo();
+        x.knock(2);
+        x.pass();
+        e.due("pass, behind KNOCKS", x.undo(), 3);
+        e.due("it KNOCKED yet", x.of(0, 3), 1);
+        e.due("it KNOCKED yet", x.of(2, 3), 1);
+        e.due("another did not", x.of(1, 3), 0);
+        e.due("the latest KNOCK", x.undo(), 2);
+        e.due("it did not KNOCK", x.of(2, 3), 0);
+        e.due("the one ahead of it did", x.of(0, 3), 1);
+        e.due("that KNOCK", x.undo(), 2);
         x.pass();
         e.due("pass", x.undo(), 3);
         e.due("YEAR", x.count(14), 0);

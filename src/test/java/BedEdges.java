@@ -34,7 +34,7 @@ final class BedEdges {
             }
         }
         // Where there are more of them than BEDS, BEDS are used again.
-        while (x.count(2) < dead) {
+        for (int i = x.count(2); i < dead; i++) {
             x.pass();
             x.dead(0, 0, 1);
         }
@@ -89,6 +89,7 @@ final class BedEdges {
         full.lodge(1, 0);
         rooms(full, 0, 0, NO_BED, NONE);
         rooms(under(out(2, 1, 1), "bars"), 0, 0, NO_BED, NO_BED);
+        rooms(under(out(8, 3, 3, 3, 3, 3), "bars"), 0, 0, NO_BED, NO_BED, NO_BED, NO_BED, NO_BED, NO_BED, NO_BED, NO_BED);
         rooms(under(out(2, 1, 1), "bars if dead = 0"), 1, 0, NO_BED, 0);
         rooms(under(out(2, 1, 1), "bars if dead = 1 and vault = 1"), 2, 0, 1, 0);
         rooms(under(out(3, 1, 1, 1), "bars if dead = 2 and vault > 0;bars if dead = 1 and vault > 1"), 3, 0, 2, 1, 0);

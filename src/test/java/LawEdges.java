@@ -74,6 +74,8 @@ final class LawEdges {
             e.right("bars if " + word + "=" + word);
             e.faultOfLaw("prices " + word + " 1", 8 + word.length());
             e.faultOfLaw("prices " + word.substring(1), 7);
+            e.faultOfLaw("prices q" + word.substring(1), 7);
+            e.faultOfLaw("prices " + word.substring(0, word.length() - 1), 7);
             e.faultOfLaw("prices " + word + "s", 7);
         }
         for (String word : new String[] {"done", "latest", "inside", "in", "times", "bars", "not"}) {

@@ -105,6 +105,10 @@ final class OrderEdges {
         e.faultOfOrders("pass if term [0] = 1", 13);
         e.faultOfOrders("pass if year 0 = 1", 13);
         e.faultOfOrders("pass if inside 0 = 1", 15);
+        for (String word : new String[] {"year", "done", "latest", "inside", "term 0", "means 0"}) {
+            e.faultOfOrders("knock q" + word.substring(1), 6);
+            e.faultOfOrders("knock q" + word, 6);
+        }
         for (String word : new String[] {"dead", "family", "vault", "beds", "free", "mood", "times", "in", "pass"}) {
             e.faultOfOrders("knock " + word, 6);
         }

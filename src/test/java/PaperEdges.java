@@ -623,8 +623,16 @@ final class PaperEdges {
         }
         for (int k : new int[] {2, 0, -1, 1}) {
             status(x, "image", x.image(k));
+            status(x, "wish", x.wish(0, 9, 1));
             status(x, "back", x.back(k));
+            status(x, "undo", x.undo());
         }
+        status(x, "image", x.image(0));
+        x.terms(0, 5);
+        x.wish(0, 9, 1);
+        status(x, "pass", x.pass());
+        x.wish(0, 9, 1);
+        status(x, "undo", x.undo());
         VaultLeases y = new VaultLeases();
         status(y, "back", y.back(0));
         for (int i = 0; i < 7; i++) {

@@ -121,6 +121,12 @@ final class QuestionEdges {
         Check.law(y, "prices 1;prices 50 if term > 5;lasts 1;lasts 20 if term > 5");
         y.force(1);
         kept(y, 99, 1, 98, 1);
+        VaultLeases more = family(0, 5, 9);
+        Check.law(more, "prices 7;lasts 1");
+        more.force(0);
+        kept(more, 3, 2, 0, 3);
+        kept(more, 5, 2, 0, 3);
+        kept(more, 6, 1, 0, 2);
         VaultLeases z = Check.small();
         kept(z, 10, 2, 5, 5);
         e.due("the other FAMILY has another", z.keep(1, 10, 2), 2);
@@ -186,6 +192,9 @@ final class QuestionEdges {
         when(x, "prices 20 - year", 1, 0, 20);
         when(x, "prices 60 - 10 * term", 0, 0, 30);
         when(x, "prices 9;prices 8 if year = 4 or year = 7", 2, 4, 8);
+        x = Check.small();
+        when(x, "prices 9;prices 8 if year = 1", 2, 1, 8);
+        when(x, "prices 9;prices 8 if year > 0", 2, 1, 8);
         x = Check.small();
         when(x, "prices 20 - year % 12", 2, 11, 9);
         when(x, "prices 20 - year % 13", 2, 11, 9);

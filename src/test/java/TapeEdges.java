@@ -84,6 +84,15 @@ final class TapeEdges {
         e.due("none", x.end(0), 0);
         e.due("none", x.count(7), 0);
         e.due("none of none", x.end(0), 0);
+        // What end() cut off would go on with the last word, the last NUMBER.
+        Check.feed(x, Check.bytes("barss"));
+        x.end(4);
+        e.due("a word at the end", x.law(), 1);
+        Check.feed(x, Check.bytes("prices 67"));
+        x.end(8);
+        e.due("a NUMBER at the end", x.law(), 2);
+        x.force(2);
+        e.due("its first digit", x.of(0, 4), 6);
         e.says("NONE, if it has not so many, or n is below 0.");
         e.due("end(1) of none", x.end(1), NONE);
         x.feed(0, 0, 0, 0, 0);

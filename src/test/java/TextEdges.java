@@ -58,6 +58,20 @@ final class TextEdges {
         e.faultOfLaw("bars if notnot 1=1", 8);
         e.faultOfLaw("Bars", 0);
         e.faultOfLaw("bars if year" + (char) ('r' + 128) + "=1", 12);
+        for (String word : new String[] {"prices 1", "lasts 1", "earns 1", "bars"}) {
+            e.faultOfLaw("q" + word.substring(1), 0);
+            e.faultOfLaw("q" + word, 0);
+        }
+        for (String word : new String[] {"renew 0", "lodge 0 in 0", "knock 0", "pass"}) {
+            e.faultOfOrders("q" + word.substring(1), 0);
+            e.faultOfOrders("q" + word, 0);
+        }
+        e.faultOfLaw("bars of 1=1", 5);
+        e.faultOfLaw("bars if 1=1 er 1=1", 12);
+        e.faultOfLaw("bars if 1=1 end 1=1", 12);
+        e.faultOfLaw("bars if net 1=1", 8);
+        e.faultOfOrders("lodge 0 on 0", 8);
+        e.faultOfOrders("pass dimes 2", 5);
         e.says(", of digits");
         e.priced("12", 12);
         e.priced("09", 9);
@@ -202,6 +216,14 @@ final class TextEdges {
         e.right("prices " + many("1", "+", 24) + ";bars if " + many("1", "+", 13) + "=" + many("mood", "*", 13));
         e.faultOfLaw("prices " + many("1", "+", 24) + ";bars if " + many("1", "+", 13) + "=" + many("mood", "*", 14), 154);
         e.right("prices " + many("[1]", "+", 50));
+        e.faultOfLaw("prices " + many("1", "+", 50) + "+", 107);
+        e.faultOfLaw("prices " + many("1", "+", 50) + "+;bars", 107);
+        e.faultOfLaw("prices " + many("1", "+", 50) + "+ if 1=1", 108);
+        VaultLeases x = new VaultLeases();
+        for (int i = 0; i < 3; i++) {
+            e.law(x, "prices " + many("1", "+", 50), i);
+            e.law(x, "prices " + many("1", "+", 51), -6);
+        }
         e.faultOfOrders("knock " + many("1", "*", 51), 106);
         e.orders(Check.small(), "knock " + many("0", "*", 50), 1);
         e.says(", 8 brackets of both kinds within one another (FAULT at the 9th) at most.");
