@@ -21,8 +21,8 @@ final class BedEdges {
         promise35();
     }
 
-    /** VAULTS with these BEDS, and so many DEAD, who all are OUT. */
-    private static VaultLeases out(int dead, int... beds) {
+    /** VAULTS with these BEDS, and so many DEAD in the first BEDS there are, no more than there are BEDS. */
+    private static VaultLeases filled(int dead, int term, int... beds) {
         VaultLeases x = new VaultLeases();
         x.family(0);
         for (int one : beds) {
@@ -30,30 +30,25 @@ final class BedEdges {
         }
         for (int v = 0; v < beds.length; v++) {
             for (int b = 0; b < beds[v] && x.count(2) < dead; b++) {
-                x.dead(0, v, 1);
+                x.dead(0, v, term);
             }
         }
+        return x;
+    }
+
+    private static VaultLeases in(int dead, int... beds) {
+        return filled(dead, 9, beds);
+    }
+
+    /** VAULTS with these BEDS, and so many DEAD, who all are OUT. */
+    private static VaultLeases out(int dead, int... beds) {
+        VaultLeases x = filled(dead, 1, beds);
         // Where there are more of them than BEDS, BEDS are used again.
         for (int i = x.count(2); i < dead; i++) {
             x.pass();
             x.dead(0, 0, 1);
         }
         x.pass();
-        return x;
-    }
-
-    /** VAULTS with these BEDS, and so many DEAD, who are IN in the first BEDS there are. */
-    private static VaultLeases in(int dead, int... beds) {
-        VaultLeases x = new VaultLeases();
-        x.family(0);
-        for (int one : beds) {
-            x.vault(one);
-        }
-        for (int v = 0; v < beds.length; v++) {
-            for (int b = 0; b < beds[v] && x.count(2) < dead; b++) {
-                x.dead(0, v, 9);
-            }
-        }
         return x;
     }
 

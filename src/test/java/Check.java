@@ -50,6 +50,11 @@ final class Check {
         return x;
     }
 
+    /** The same words so many times, with something between them. */
+    static String many(String one, String between, int n) {
+        return one + (between + one).repeat(n - 1);
+    }
+
     static byte[] bytes(String text) {
         return text.getBytes(StandardCharsets.ISO_8859_1);
     }

@@ -21,10 +21,6 @@ final class OrderEdges {
         promise18();
     }
 
-    private static String many(String one, String between, int n) {
-        return one + (between + one).repeat(n - 1);
-    }
-
     /** So many are run of these ORDERS on Check.small(). */
     private VaultLeases done(String text, int want) {
         VaultLeases x = Check.small();
@@ -116,17 +112,17 @@ final class OrderEdges {
 
     private void parts() {
         e.says("D, F, TIMES aside, NUMBERS and words count as PARTS.");
-        String fifty = "pass times 2 if " + many("term7", "+", 25) + "+" + many("means3", "+", 24) + "=1";
+        String fifty = "pass times 2 if " + Check.many("term7", "+", 25) + "+" + Check.many("means3", "+", 24) + "=1";
         done(fifty, 0);
         e.faultOfOrders(fifty + "+1", fifty.length() + 1);
         e.faultOfOrders(fifty + "+year", fifty.length() + 1);
         e.faultOfOrders(fifty + "+term 7", fifty.length() + 1);
         e.faultOfOrders(fifty + "+means 3", fifty.length() + 1);
         done(fifty + ";pass times 20", 20);
-        done("knock " + many("0", "+", 50) + ";pass times 20;" + many("pass times 1", ";", 9), 30);
-        e.faultOfOrders("pass times 20;pass;knock " + many("0", "+", 51), 125);
-        done("lodge " + many("1", "*", 25) + " in " + many("1", "*", 25) + " times 3", -3);
-        e.faultOfOrders("lodge " + many("1", "*", 25) + " in " + many("1", "*", 26), 109);
+        done("knock " + Check.many("0", "+", 50) + ";pass times 20;" + Check.many("pass times 1", ";", 9), 30);
+        e.faultOfOrders("pass times 20;pass;knock " + Check.many("0", "+", 51), 125);
+        done("lodge " + Check.many("1", "*", 25) + " in " + Check.many("1", "*", 25) + " times 3", -3);
+        e.faultOfOrders("lodge " + Check.many("1", "*", 25) + " in " + Check.many("1", "*", 26), 109);
     }
 
     private void runs() {
@@ -243,7 +239,7 @@ final class OrderEdges {
         e.due("nothing can be undone", x.count(6), 0);
         e.orders(x, "knock 0;pass times 2", 3);
         e.due("the TAPE is empty", x.count(7), 0);
-        e.orders(x, many("pass times 20", ";", 12), 240);
+        e.orders(x, Check.many("pass times 20", ";", 12), 240);
         e.says("-3 one can't be");
         e.orders(x, "pass;knock 9", -3);
         e.due("the TAPE is empty", x.count(7), 0);
@@ -267,7 +263,7 @@ final class OrderEdges {
         VaultLeases x = Check.small();
         e.orders(x, "knock 9", -3);
         e.due("the first", x.stopped(), 0);
-        e.orders(x, many("pass", ";", 11) + ";knock 9", -3);
+        e.orders(x, Check.many("pass", ";", 11) + ";knock 9", -3);
         e.due("the twelfth", x.stopped(), 11);
         e.orders(x, "pass times 20;knock 9 if 1=2;knock 2 times 2;pass", -3);
         e.due("CLAUSES, not how often they are run", x.stopped(), 2);

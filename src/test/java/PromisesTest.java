@@ -575,38 +575,30 @@ public final class PromisesTest {
         c.due("fault of none", x.fault(), NONE);
     }
 
-    private static String many(String one, String between, int n) {
-        StringBuilder all = new StringBuilder(one);
-        for (int i = 1; i < n; i++) {
-            all.append(between).append(one);
-        }
-        return all.toString();
-    }
-
     private static void limitsOfTexts() {
         c.about("promise 15, 17: limits");
         VaultLeases x = Check.small();
-        c.due("12 clauses", Check.law(x, many("bars", ";", 12)), 0);
-        faultAt(false, many("bars", ";", 13), 60);
-        faultAt(false, many("bars", ";", 12) + ";  ?", 62);
-        faultAt(false, many("bars", ";", 12) + ";", 60);
-        faultAt(false, many("bars", ";", 12) + " ?", 60);
-        c.due("50 parts", Check.law(x, "lasts " + many("1", "+", 50)), 1);
-        faultAt(false, "lasts " + many("1", "+", 51), 106);
-        c.due("of all clauses", Check.law(x, "lasts " + many("1", "+", 25) + ";lasts " + many("1", "+", 25)), 2);
-        faultAt(false, "lasts " + many("1", "+", 25) + ";lasts " + many("1", "+", 26), 112);
-        c.due("D, F, TIMES are none", Check.orders(x, "pass times 1 if " + many("term 7", "+", 24) + "+" + many("means 3", "+", 25) + "=0"), 0);
-        faultAt(true, "pass times 1 if " + many("term 7", "+", 25) + "+" + many("means 3", "+", 25) + "=0", 391);
+        c.due("12 clauses", Check.law(x, Check.many("bars", ";", 12)), 0);
+        faultAt(false, Check.many("bars", ";", 13), 60);
+        faultAt(false, Check.many("bars", ";", 12) + ";  ?", 62);
+        faultAt(false, Check.many("bars", ";", 12) + ";", 60);
+        faultAt(false, Check.many("bars", ";", 12) + " ?", 60);
+        c.due("50 parts", Check.law(x, "lasts " + Check.many("1", "+", 50)), 1);
+        faultAt(false, "lasts " + Check.many("1", "+", 51), 106);
+        c.due("of all clauses", Check.law(x, "lasts " + Check.many("1", "+", 25) + ";lasts " + Check.many("1", "+", 25)), 2);
+        faultAt(false, "lasts " + Check.many("1", "+", 25) + ";lasts " + Check.many("1", "+", 26), 112);
+        c.due("D, F, TIMES are none", Check.orders(x, "pass times 1 if " + Check.many("term 7", "+", 24) + "+" + Check.many("means 3", "+", 25) + "=0"), 0);
+        faultAt(true, "pass times 1 if " + Check.many("term 7", "+", 25) + "+" + Check.many("means 3", "+", 25) + "=0", 391);
         c.due("8 brackets", Check.law(x, "bars if ((((([[[1]]]=1)))))"), 3);
         faultAt(false, "bars if ((((([[[[1]]]]=1)))))", 16);
         faultAt(false, "bars if (((((((((1=1)))))))))", 16);
-        c.due("within one another", Check.law(x, "bars if " + many("((1=[[1]]))", "or", 20)), 4);
-        c.due("many nots", Check.law(x, "bars if " + many("not", " ", 97) + "0=1"), 5);
+        c.due("within one another", Check.law(x, "bars if " + Check.many("((1=[[1]]))", "or", 20)), 4);
+        c.due("many nots", Check.law(x, "bars if " + Check.many("not", " ", 97) + "0=1"), 5);
         x.force(5);
         c.due("an odd number of them", x.asks(0, 1, 1), 1);
-        x = under("bars if " + many("not", " ", 96) + "0=1");
+        x = under("bars if " + Check.many("not", " ", 96) + "0=1");
         c.due("an even one", x.asks(0, 1, 1), 0);
-        x = under("lasts " + many("1", "+", 50));
+        x = under("lasts " + Check.many("1", "+", 50));
         c.due("they count", x.of(0, 5), 20);
         x = under("prices 1+[2*[3+[4*[5+[6*[7+[8*[9-8]]]]]]]]/100");
         c.due("deep", x.of(0, 4), 1 + 2 * (3 + 4 * (5 + 6 * (7 + 8))) / 100);

@@ -23,10 +23,6 @@ final class TextEdges {
         return ahead + " ".repeat(length - ahead.length() - behind.length()) + behind;
     }
 
-    private static String many(String one, String between, int n) {
-        return one + (between + one).repeat(n - 1);
-    }
-
     private void tapes() {
         e.terms();
         e.says("II. TEXTS are on a TAPE of at most 400 bytes.");
@@ -113,17 +109,17 @@ final class TextEdges {
         e.orders(Check.small(), "pass", 1);
         e.orders(Check.small(), "pass;pass", 2);
         e.says(", 12 at most (FAULT at the 13th's first TOKEN).");
-        e.right(many("bars", ";", 12));
-        e.faultOfLaw(many("bars", ";", 13), 60);
-        e.faultOfLaw(many("bars", ";", 14), 60);
-        e.faultOfLaw(many("bars", ";", 12) + ";   bars", 63);
-        e.faultOfLaw(many("bars", ";", 12) + ";", 60);
-        e.faultOfLaw(many("bars", ";", 12) + ";  ", 62);
-        e.faultOfLaw(many("bars", ";", 12) + " bars", 60);
-        e.orders(Check.small(), many("pass", ";", 12), 12);
-        e.faultOfOrders(many("pass", ";", 13), 60);
-        e.faultOfOrders(many("pass", ";", 12) + ";?", 60);
-        VaultLeases x = e.under("prices 2;" + many("bars if 1=2", ";", 10) + ";prices 3");
+        e.right(Check.many("bars", ";", 12));
+        e.faultOfLaw(Check.many("bars", ";", 13), 60);
+        e.faultOfLaw(Check.many("bars", ";", 14), 60);
+        e.faultOfLaw(Check.many("bars", ";", 12) + ";   bars", 63);
+        e.faultOfLaw(Check.many("bars", ";", 12) + ";", 60);
+        e.faultOfLaw(Check.many("bars", ";", 12) + ";  ", 62);
+        e.faultOfLaw(Check.many("bars", ";", 12) + " bars", 60);
+        e.orders(Check.small(), Check.many("pass", ";", 12), 12);
+        e.faultOfOrders(Check.many("pass", ";", 13), 60);
+        e.faultOfOrders(Check.many("pass", ";", 12) + ";?", 60);
+        VaultLeases x = e.under("prices 2;" + Check.many("bars if 1=2", ";", 10) + ";prices 3");
         e.due("the twelfth counts", x.of(0, 4), 3);
     }
 
@@ -208,24 +204,24 @@ final class TextEdges {
 
     private void limits() {
         e.says("50 PARTS that are NUMBERS and words (FAULT at the 51st)");
-        e.right("prices " + many("1", "+", 50));
-        e.faultOfLaw("prices " + many("1", "+", 51), 107);
-        e.faultOfLaw("prices " + many("1", "+", 50) + "+[[ dead]]", 110);
-        e.right("prices " + many("year", "+", 50));
-        e.faultOfLaw("prices " + many("year", "+", 51), 257);
-        e.right("prices " + many("1", "+", 24) + ";bars if " + many("1", "+", 13) + "=" + many("mood", "*", 13));
-        e.faultOfLaw("prices " + many("1", "+", 24) + ";bars if " + many("1", "+", 13) + "=" + many("mood", "*", 14), 154);
-        e.right("prices " + many("[1]", "+", 50));
-        e.faultOfLaw("prices " + many("1", "+", 50) + "+", 107);
-        e.faultOfLaw("prices " + many("1", "+", 50) + "+;bars", 107);
-        e.faultOfLaw("prices " + many("1", "+", 50) + "+ if 1=1", 108);
+        e.right("prices " + Check.many("1", "+", 50));
+        e.faultOfLaw("prices " + Check.many("1", "+", 51), 107);
+        e.faultOfLaw("prices " + Check.many("1", "+", 50) + "+[[ dead]]", 110);
+        e.right("prices " + Check.many("year", "+", 50));
+        e.faultOfLaw("prices " + Check.many("year", "+", 51), 257);
+        e.right("prices " + Check.many("1", "+", 24) + ";bars if " + Check.many("1", "+", 13) + "=" + Check.many("mood", "*", 13));
+        e.faultOfLaw("prices " + Check.many("1", "+", 24) + ";bars if " + Check.many("1", "+", 13) + "=" + Check.many("mood", "*", 14), 154);
+        e.right("prices " + Check.many("[1]", "+", 50));
+        e.faultOfLaw("prices " + Check.many("1", "+", 50) + "+", 107);
+        e.faultOfLaw("prices " + Check.many("1", "+", 50) + "+;bars", 107);
+        e.faultOfLaw("prices " + Check.many("1", "+", 50) + "+ if 1=1", 108);
         VaultLeases x = new VaultLeases();
         for (int i = 0; i < 3; i++) {
-            e.law(x, "prices " + many("1", "+", 50), i);
-            e.law(x, "prices " + many("1", "+", 51), -6);
+            e.law(x, "prices " + Check.many("1", "+", 50), i);
+            e.law(x, "prices " + Check.many("1", "+", 51), -6);
         }
-        e.faultOfOrders("knock " + many("1", "*", 51), 106);
-        e.orders(Check.small(), "knock " + many("0", "*", 50), 1);
+        e.faultOfOrders("knock " + Check.many("1", "*", 51), 106);
+        e.orders(Check.small(), "knock " + Check.many("0", "*", 50), 1);
         e.says(", 8 brackets of both kinds within one another (FAULT at the 9th) at most.");
         e.right("prices " + "[".repeat(8) + "1" + "]".repeat(8));
         e.faultOfLaw("prices " + "[".repeat(9) + "1" + "]".repeat(9), 15);
@@ -233,7 +229,7 @@ final class TextEdges {
         e.faultOfLaw("bars if " + "(".repeat(9) + "1=1" + ")".repeat(9), 16);
         e.right("bars if ((((([[[1]]]=[[[1]]])))))");
         e.faultOfLaw("bars if ((((([[[1]]]=[[[[1]]]])))))", 24);
-        e.right("bars if " + many("((((([[[1]]]=1)))))", "or", 12));
+        e.right("bars if " + Check.many("((((([[[1]]]=1)))))", "or", 12));
         e.right("bars if " + "not(".repeat(8) + "1=1" + ")".repeat(8) + ";lasts " + "[".repeat(8) + "1" + "]".repeat(8));
         e.faultOfOrders("pass if (((((((([1]=1))))))))", 16);
         e.faultOfOrders("renew [[[[[[[[[0]]]]]]]]]", 14);
