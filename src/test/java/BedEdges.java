@@ -121,6 +121,15 @@ final class BedEdges {
             v.wish(d, 4 - d / 2, 9);
         }
         rooms(v, 8, 72, 4, 4, 3, 3, 2, 2, 1, 1);
+        VaultLeases again = out(2, 2, 1);
+        again.wish(0, 1, 8);
+        again.wish(1, 1, 8);
+        rooms(again, 2, 8, 0, 1);
+        again.wish(1, 0, 8);
+        rooms(again, 2, 16, 1, 0);
+        again.wish(0, 1, 0);
+        again.wish(1, 0, 0);
+        rooms(again, 2, 8, 0, 1);
         // The eighth can lie nowhere but where the seven would rather lie.
         VaultLeases u = under(out(8, 3, 3, 2), "bars if dead = 7 and vault > 0");
         for (int d = 0; d < 7; d++) {
