@@ -8,16 +8,22 @@ import java.util.Map;
 import java.util.regex.Matcher;
 import java.util.regex.Pattern;
 
-/** The "Terms" and the promises of DOC.md, and which of their words tests have quoted. */
+/** The public face, the "Terms" and the promises of DOC.md, and which of their words tests have quoted. */
 final class Doc {
     private static final Path PLACE = Path.of("../shared/DOC.md");
 
     private final Map<String, String> texts = new LinkedHashMap<>();
     private final Map<String, boolean[]> quoted = new LinkedHashMap<>();
+    private final List<String> face = new ArrayList<>();
 
     Doc() throws IOException {
+        String document = Files.readString(PLACE);
+        Matcher members = Pattern.compile("^    (public .*);$", Pattern.MULTILINE).matcher(document);
+        while (members.find()) {
+            face.add(members.group(1).replaceAll("(\\w+) \\w+(?=[,)])", "$1"));
+        }
         Matcher sections = Pattern.compile("^## (Terms|Promise \\d+)(.*?)\n(.*?)(?=^## )", Pattern.DOTALL | Pattern.MULTILINE)
-            .matcher(Files.readString(PLACE));
+            .matcher(document);
         while (sections.find()) {
             String text = sections.group(3).replace("```text", " ").replace("```", " ").replaceAll("`\\w+ \\w+\\([\\w ,]*\\)`:|`VaultLeases\\(\\)`:", " ");
             texts.put(sections.group(1), plain(text));
@@ -41,6 +47,11 @@ final class Doc {
             at = text.indexOf(words, at + 1);
         }
         return so;
+    }
+
+    /** The members of "The public face", without the names of parameters. */
+    List<String> face() {
+        return face;
     }
 
     int promises() {

@@ -17,17 +17,14 @@ import java.util.regex.Pattern;
 /** The face of the document, the rules of LANGUAGE.md that can be looked up, and the room a run takes. */
 public final class LanguageTest {
     private static final Check c = new Check();
-    private static final String FACE = "vault(int) at(int,int) family(int) has(int,int) dead(int,int,int) of(int,int) asks(int,int,int) "
-        + "wish(int,int,int) terms(int,int) feed(int,int,int,int,int) end(int) row() draughts() law() orders() fault() stopped() "
-        + "force(int) renew(int) lodge(int,int) knock(int) pass() undo() inside(int) empty() keep(int,int,int) when(int,int) "
-        + "seen(int,int) forget() stranger() look(int) rooms(int) packed(int) changes(int) few(int,int) compare(int) "
-        + "centuries(int,int) drawn(int,int) image(int) back(int) count(int) status()";
+    private static final int DEEPEST = 8;
 
     public static void main(String[] args) throws IOException {
         face();
         members();
         words();
         methods();
+        calls();
         room();
         c.finish("LanguageTest");
     }
@@ -42,21 +39,23 @@ public final class LanguageTest {
         c.due(what, so ? 1 : 0, 1);
     }
 
-    private static void face() {
+    private static void face() throws IOException {
         c.about("rule 1");
-        Set<String> due = new TreeSet<>(Arrays.asList(FACE.split(" ")));
+        Set<String> due = new TreeSet<>(new Doc().face());
         Set<String> is = new TreeSet<>();
         Set<String> names = new TreeSet<>();
         for (Method m : VaultLeases.class.getDeclaredMethods()) {
             if (!Modifier.isPrivate(m.getModifiers())) {
                 List<String> types = Arrays.stream(m.getParameterTypes()).map(Class::getName).toList();
-                is.add(m.getName() + "(" + String.join(",", types) + ")");
+                is.add("public " + m.getReturnType() + " " + m.getName() + "(" + String.join(", ", types) + ")");
                 names.add(m.getName());
                 must(Modifier.isPublic(m.getModifiers()) && !Modifier.isStatic(m.getModifiers()), m + " is public");
-                must(m.getReturnType() == (m.getName().equals("few") ? long.class : int.class), m + " answers so");
             }
         }
-        must(is.equals(due), "the methods of the face: " + is);
+        is.add("public VaultLeases()");
+        is.add("public static final int NONE = " + VaultLeases.NONE);
+        is.add("public static final int NOTHING = " + VaultLeases.NOTHING);
+        must(is.equals(due), "the face of the document, " + due + ", is that of the class, " + is);
         for (Class<?> one : classes()) {
             for (Method m : one.getDeclaredMethods()) {
                 must(one == VaultLeases.class && Modifier.isPublic(m.getModifiers()) || !names.contains(m.getName()), m + " has a name of its own");
@@ -131,6 +130,16 @@ public final class LanguageTest {
             }
             length++;
             must(length <= 60 || !line.matches("^(?:    |        )\\}$"), name + " is short");
+        }
+    }
+
+    private static void calls() {
+        c.about("rules 8, 11");
+        Calls calls = new Calls(classes());
+        List<String> longest = calls.longest();
+        must(longest.size() > 1 && longest.size() <= DEEPEST, "calls go eight deep at most: " + longest);
+        for (String name : calls.recursive()) {
+            must(calls.isPrivate(name), name + ", which comes back to itself, is private");
         }
     }
 
