@@ -215,10 +215,13 @@ final class TextEdges {
         e.faultOfLaw("prices " + Check.many("1", "+", 50) + "+", 107);
         e.faultOfLaw("prices " + Check.many("1", "+", 50) + "+;bars", 107);
         e.faultOfLaw("prices " + Check.many("1", "+", 50) + "+ if 1=1", 108);
-        VaultLeases x = new VaultLeases();
-        for (int i = 0; i < 3; i++) {
-            e.law(x, "prices " + Check.many("1", "+", 50), i);
-            e.law(x, "prices " + Check.many("1", "+", 51), -6);
+        // Each TEXT has its own 50, however many were read ahead of it, and it is read whole.
+        VaultLeases x = Check.small();
+        for (int i = 0; i < 6; i++) {
+            e.law(x, "prices " + i + "+" + Check.many("1", "+", 50), -6);
+            e.law(x, "prices " + i + "+" + Check.many("1", "+", 49), i);
+            x.force(i);
+            e.due("all 50 count", x.of(0, 4), 49 + i);
         }
         e.faultOfOrders("knock " + Check.many("1", "*", 51), 106);
         e.orders(Check.small(), "knock " + Check.many("0", "*", 50), 1);
